@@ -193,7 +193,7 @@ public final class OneWayPast {
         return whyNot == 0 ? kept(before.cornerOf(g) * 100 + before.yearOf(g)) : LESS_WHY - whyNot;
     }
 
-    /** The call that stands before this did some: it can be undone. */
+    /** The call at hand did some: how things stood ahead of it is kept, so that it can be undone. */
     private int kept(int answer) {
         history.keep(before);
         return answer;
@@ -1515,7 +1515,7 @@ public final class OneWayPast {
         /** The streets by which signs let one leave a corner, as bits. */
         int leaving(int corner, Standing standing) {
             int bits = 0;
-            for (int s = 0; s < town.streets; s++) {
+            for (int s = 0; s < town.streets && s < MOST_STREETS; s++) {
                 if (sideOf(s, corner, standing.signOf(s)) != NONE) {
                     bits |= 1 << s;
                 }

@@ -6,6 +6,11 @@ public final class PromisesTest {
             "town 4;street 0 1 years 3;street 1 2 back 2 sign 2;street 2 3 years 5;street 3 0 back 6;"
             + "goer 0 year 5;goer 2 year 10;bollards 1;may : not street = 2 or bollards < 3;";
 
+    /** Round and round, a year more each time, to all 120 spots; from the last one by street 6 to the first. */
+    private static final String ALL_SPOTS =
+            "town 6;street 0 1;street 1 2;street 2 3;street 3 4;street 4 5;street 5 0;street 5 0;goer 0 year 0;"
+            + "shifts : if street = 5 then 1 else if street = 6 then 0 - 19 else 0 end end;may : street < 6 or year = 19;";
+
     private static int wrong = 0;
     private static int checks = 0;
 
@@ -170,6 +175,15 @@ public final class PromisesTest {
                 + "street 4 5;street 5 0;street 0 3;street 1 4;goer 5 year 19;goer 0 year 0;goer 3 year 4;"), 12);
         due("3 the last street", x.street(7, 1), 4);
         due("3 the last goer", x.goer(2, 1), 4);
+        // Each text has laws of its own, as long as a text can be.
+        StringBuilder ones = new StringBuilder("1");
+        for (int i = 0; i < 410; i++) {
+            ones.append(i % 2 == 0 ? "+1" : "-1");
+        }
+        for (int i = 0; i < 5; i++) {
+            due("3 a long law", tell(x, "town 2;street 0 1;goer 0 year " + i + ";shifts:" + ones + "+" + i + ";"), 4);
+            due("3 a long law", x.by(0, 0, 1), 2 * i + 1);
+        }
     }
 
     /** What shifts tells for the one street of a town, gone by a goer in year 10 (less 100: why not). */
@@ -239,7 +253,18 @@ public final class PromisesTest {
         faultDue("town 1;\u00e9", 1, 7);
         faultDue("town 1;\0", 1, 7);
         faultDue("town 1;{", 1, 7);
+        faultDue("town 1;zoo;", 2, 7);
         faultDue("town 1;street 0 0;", 3, 16);
+        faultDue("town 2;street 2 0;", 3, 14);
+        faultDue("town 2;street 0 2;", 3, 16);
+        faultDue("town 2;street 0 1 years 10;", 3, 24);
+        faultDue("town 2;street 0 1 back 10;", 3, 23);
+        faultDue("town 2;street 0 1 sign 4;", 3, 23);
+        faultDue("town 2;goer 2 year 0;", 3, 12);
+        faultDue("town 2;" + "street 0 1;".repeat(8) + "street 0 1;", 4, 95);
+        faultDue("town 2;" + "street 0 1;".repeat(8) + "street street;", 4, 95);
+        faultDue("town 2;may : goer = 1;shifts : goer;", 2, 31);
+        faultDue("town 2;town 2;", 2, 7);
         faultDue("town 2;street 1 1;", 3, 16);
         faultDue("town 2;street 0 1 years;", 2, 23);
         faultDue("town 2;street 0 1 year 1;", 2, 18);
@@ -350,6 +375,9 @@ public final class PromisesTest {
         due("8 no goer", x.by(1, 0, 0), -5);
         due("8 no street", x.by(0, 1, 0), -5);
         due("8 nothing is done", x.goer(0, 1), 9);
+        OneWayPast y = told("town 2;street 1 0 back 4;goer 1 year 4;");
+        due("8 corner 0", y.by(0, 0, 0), 0);
+        due("8 year 0", y.by(0, 0, 1), 0);
     }
 
     // Promise 9
@@ -573,15 +601,28 @@ public final class PromisesTest {
         due("18 year", x.way(0, 3, 20, 0), -3);
         due("18 goer", x.way(1, 3, 20, -1), -2);
         due("18 corner", x.way(0, 4, 0, 0), -2);
+        due("18 to corner 0, year 0", told("town 2;street 1 0 back 4;goer 1 year 4;").way(0, 0, 0, 0), 0);
+        due("18 on from there", told("town 3;street 0 2;street 1 0 back 4;goer 1 year 4;").way(0, 2, 0, 0), 1);
+        OneWayPast y = told(ALL_SPOTS);
+        due("17 the farthest", y.soonest(0, 5, 19), 119);
+        for (int i = 0; i < 119; i++) {
+            due("18 the farthest " + i, y.way(0, 5, 19, i), i % 6);
+        }
+        due("18 behind it", y.way(0, 5, 19, 119), -1);
+        due("25 the longest ring", y.ring(0), 120);
+        due("26 it is no by-law", y.bylaw(0, 0), 1);
+        due("26 it is no by-law", y.bylaw(0, 1), 1);
+        y.numbers(0, 0, 40);
+        due("40 as far as it has places", y.lists(0, 0, 5, 19), 40);
+        due("20 each year", y.when(0, 3), (1 << 20) - 1);
+        y.sign(6, 3);
+        due("25 no ring", y.ring(0), -1);
+        due("26 as now", y.bylaw(0, 0), 0);
     }
 
     // Promise 19
     private static void rows() {
-        StringBuilder text = new StringBuilder("town 2;");
-        for (int i = 0; i < 8; i++) {
-            text.append("street 0 1 sign 2;");
-        }
-        OneWayPast x = told(text + "goer 0 year 0;");
+        OneWayPast x = told("town 2;" + "street 0 1 sign 2;".repeat(8) + "goer 0 year 0;");
         long ways = 1;
         for (int n = 0; n <= 12; n++) {
             due("19 rows " + n, x.rows(0, n % 2, -1, n), ways);
@@ -710,11 +751,7 @@ public final class PromisesTest {
         OneWayPast w = told("town 2;street 0 1;street 0 1;goer 0 year 0;may : 1 = 1;shifts : 0;");
         due("26 two ways to go round", w.laws(0), 2);
         due("27 already", w.bylaw(0, 0), 0);
-        StringBuilder text = new StringBuilder("town 2;");
-        for (int i = 0; i < 8; i++) {
-            text.append("street 0 1 sign 2;");
-        }
-        OneWayPast v = told(text + "goer 0 year 0;");
+        OneWayPast v = told("town 2;" + "street 0 1 sign 2;".repeat(8) + "goer 0 year 0;");
         due("26 all one way", v.laws(0), 2);
         due("27 all eight", v.bylaw(0, 0), 8);
         due("27 along", v.bylaw(0, 1), 0);
@@ -739,11 +776,7 @@ public final class PromisesTest {
         due("28 what where it is", x.shut(0, 0, -1), -2);
         due("28 corner", x.shut(0, 4, 0), -2);
         due("28 goer", x.shut(1, 0, 0), -2);
-        StringBuilder text = new StringBuilder("town 2;");
-        for (int i = 0; i < 8; i++) {
-            text.append("street 0 1;");
-        }
-        OneWayPast y = told(text + "goer 0 year 0;");
+        OneWayPast y = told("town 2;" + "street 0 1;".repeat(8) + "goer 0 year 0;");
         due("28 all", y.shut(0, 1, 1), 255);
         due("28 all", y.shut(0, 1, 0), 8);
     }
@@ -818,6 +851,12 @@ public final class PromisesTest {
         due("32 missing", x.attempt(1, 0, 5), -6);
         tray(x, 0, 1);
         due("32 no numbers", x.attempt(0, 0, 5), -4);
+        // 8 and 9 are told; street 1 alone tells them apart: by 9 it would come to corner 0 in year 0.
+        OneWayPast z = told("town 2;street 1 0;street 1 0;street 1 0;goer 1 year 3;"
+                + "shifts : if street = 1 and bollards = 9 then 0 - 3 else 0 end;may : street < 2 or bollards > 7;");
+        tray(z, 0, 1, 2);
+        due("31 8 and 9", z.bollardsBy(0, 0, 3), 3 << 8);
+        due("32 by the last bollard", z.attempt(0, 0, 3), 1);
         OneWayPast y = told(RING_TOWN);
         tray(y, 0, 1, 1);
         due("32 from where it is now", y.attempt(0, 1, 12), 2);
@@ -849,6 +888,11 @@ public final class PromisesTest {
         z.sign(6, 3);
         due("33 three streets are needed at the end", z.forces(0, 3), -1);
         due("33 four turns are too many", told("town 5;street 0 1;street 1 2;street 2 3;street 3 4;goer 0 year 0;").forces(0, 4), -1);
+        // To corner 2 only in a told year, which is a turn later each year.
+        String byYear = "town 3;" + "street 0 1 sign 2;".repeat(3) + "street 1 2;".repeat(5) + "shifts : 1;may : street < 3 or year = ";
+        due("33 in the third turn", told(byYear + "3;goer 1 year 1;").forces(0, 2), 3);
+        due("34 in the third turn", told(byYear + "3;goer 1 year 1;").best(0, 2), 0);
+        due("33 not in the fourth", told(byYear + "3;goer 0 year 0;").forces(0, 2), -1);
         due("33 by the law", told("town 2;street 0 1;goer 0 year 0;may : 1 = 2;").forces(0, 1), -1);
         due("33 years", told("town 2;street 0 1 back 1;goer 0 year 0;").forces(0, 1), -1);
         due("33 nothing is shut", z.count(4), 1 << 6);
@@ -866,11 +910,7 @@ public final class PromisesTest {
         due("35 what", x.chance(0, 0, 1, -1), -2);
         due("35 corner", x.chance(0, 4, 1, 0), -2);
         due("35 goer", x.chance(2, 0, 1, 0), -2);
-        StringBuilder text = new StringBuilder("town 2;street 0 1 sign 2;");
-        for (int i = 0; i < 7; i++) {
-            text.append("street 0 1 sign 3;");
-        }
-        OneWayPast y = told(text + "goer 0 year 0;");
+        OneWayPast y = told("town 2;street 0 1 sign 2;" + "street 0 1 sign 3;".repeat(7) + "goer 0 year 0;");
         // Odd many of six: (1 - (3/4)^6) / 2 = 3367 / 8192.
         due("35 six of eight", y.chance(0, 1, 6, 0), 3367);
         due("35 six of eight", y.chance(0, 1, 6, 1), 8192);
@@ -938,11 +978,11 @@ public final class PromisesTest {
             due("39 cut " + sort, x.write(3, 0, v), want[sort]);
             due("39 less one " + sort, x.write(3, 0, -1), -1);
         }
-        OneWayPast y = told("town 1;goer 0 year 3;");
+        OneWayPast y = told("town 2;street 0 1 sign 2;goer 0 year 3;");
         tray(y, 0, 1, 1019, 209);
-        due("38 all 0 then", y.numbers(0, 1, 2), 0);
-        due("38 all 0 then", y.judge(0, 1), 1);
-        due("38 all 0 then", y.judge(0, 0), 0);
+        due("38 all 0 then", y.numbers(0, 1, 3), 0);
+        due("38 all 0 then", y.perform(0), 3);
+        due("38 all 0 then", y.goer(0, 0), 1);
     }
 
     // Promise 40
