@@ -6,10 +6,10 @@ public final class PromisesTest {
             "town 4;street 0 1 years 3;street 1 2 back 2 sign 2;street 2 3 years 5;street 3 0 back 6;"
             + "goer 0 year 5;goer 2 year 10;bollards 1;may : not street = 2 or bollards < 3;";
 
-    /** Round and round, a year more each time, to all 120 spots; from the last one by street 6 to the first. */
+    /** Round and round, a year more each time, to all 120 spots; from the last one by street 0 to the first. */
     private static final String ALL_SPOTS =
-            "town 6;street 0 1;street 1 2;street 2 3;street 3 4;street 4 5;street 5 0;street 5 0;goer 0 year 0;"
-            + "shifts : if street = 5 then 1 else if street = 6 then 0 - 19 else 0 end end;may : street < 6 or year = 19;";
+            "town 6;street 5 0;street 0 1;street 1 2;street 2 3;street 3 4;street 4 5;street 5 0;goer 0 year 0;"
+            + "shifts : if street = 6 then 1 else if street = 0 then 0 - 19 else 0 end end;may : street > 0 or year = 19;";
 
     private static int wrong = 0;
     private static int checks = 0;
@@ -606,18 +606,18 @@ public final class PromisesTest {
         OneWayPast y = told(ALL_SPOTS);
         due("17 the farthest", y.soonest(0, 5, 19), 119);
         for (int i = 0; i < 119; i++) {
-            due("18 the farthest " + i, y.way(0, 5, 19, i), i % 6);
+            due("18 the farthest " + i, y.way(0, 5, 19, i), i % 6 + 1);
         }
         due("18 behind it", y.way(0, 5, 19, 119), -1);
         due("25 the longest ring", y.ring(0), 120);
-        due("26 it is no by-law", y.bylaw(0, 0), 1);
-        due("26 it is no by-law", y.bylaw(0, 1), 1);
+        due("27 it is no by-law", y.bylaw(0, 0), 1);
+        due("27 nor is it with street 0 against", y.bylaw(0, 1), 2);
         y.numbers(0, 0, 40);
         due("40 as far as it has places", y.lists(0, 0, 5, 19), 40);
         due("20 each year", y.when(0, 3), (1 << 20) - 1);
-        y.sign(6, 3);
+        y.sign(0, 3);
         due("25 no ring", y.ring(0), -1);
-        due("26 as now", y.bylaw(0, 0), 0);
+        due("27 as now", y.bylaw(0, 0), 0);
     }
 
     // Promise 19
@@ -983,6 +983,7 @@ public final class PromisesTest {
         due("38 all 0 then", y.numbers(0, 1, 3), 0);
         due("38 all 0 then", y.perform(0), 3);
         due("38 all 0 then", y.goer(0, 0), 1);
+        due("38 no bollards then", y.count(3), 0);
     }
 
     // Promise 40
