@@ -785,6 +785,10 @@ public final class OneWayPast {
         return year >= 0 && year < YEARS;
     }
 
+    private static boolean isSpot(int spot) {
+        return spot >= 0 && spot < SPOTS;
+    }
+
     /** 0, or the code by which a call that asks for a coming is refused. */
     private int refusesComing(int g, int c, int year) {
         if (!town.hasGoer(g) || !town.hasCorner(c)) {
@@ -1486,7 +1490,7 @@ public final class OneWayPast {
 
         /** The spot behind a going; below 0: why not. */
         int after(int g, int s, int spot, Standing standing) {
-            if (!town.hasGoer(g) || !town.hasStreet(s) || spot < 0 || spot >= SPOTS) {
+            if (!town.hasGoer(g) || !town.hasStreet(s) || !isSpot(spot)) {
                 return -WHY_NO_SUCH;
             }
             int side = sideOf(s, spot / YEARS, standing.signOf(s));
@@ -1571,7 +1575,7 @@ public final class OneWayPast {
             Arrays.fill(goings, NONE);
             found = 0;
             goingsBack = NONE;
-            if (start < 0 || start >= SPOTS) {
+            if (!isSpot(start)) {
                 return;
             }
             goings[start] = 0;
@@ -1579,7 +1583,7 @@ public final class OneWayPast {
             found = 1;
             for (int i = 0; i < found && i < SPOTS; i++) {
                 int spot = order[i];
-                int streets = leaving[spot / YEARS];
+                int streets = streetsFrom(spot);
                 for (int s = 0; s < MOST_STREETS; s++) {
                     if ((streets >> s & 1) == 1) {
                         comeTo(roads.after(g, s, spot, standing), spot, s);
@@ -1595,8 +1599,13 @@ public final class OneWayPast {
             }
         }
 
+        /** Those that the signs let one go, as bits. */
+        private int streetsFrom(int spot) {
+            return isSpot(spot) ? leaving[spot / YEARS] : 0;
+        }
+
         private void comeTo(int to, int spot, int s) {
-            if (to < 0 || to >= SPOTS) {
+            if (!isSpot(to) || !isSpot(spot)) {
                 return;
             }
             if (to == order[0] && goingsBack == NONE) {
@@ -1616,7 +1625,7 @@ public final class OneWayPast {
         }
 
         int goingsTo(int spot) {
-            return spot >= 0 && spot < SPOTS ? goings[spot] : NONE;
+            return isSpot(spot) ? goings[spot] : NONE;
         }
 
         /** The spot that was come to first at a corner in a year (NONE: in any), or NONE. */
@@ -1638,12 +1647,12 @@ public final class OneWayPast {
             }
             int at = spot;
             for (int left = length - 1; left > i; left--) {
-                if (at < 0 || at >= SPOTS) {
+                if (!isSpot(at)) {
                     return NONE;
                 }
                 at = cameFrom[at];
             }
-            return at >= 0 && at < SPOTS ? cameBy[at] : NONE;
+            return isSpot(at) ? cameBy[at] : NONE;
         }
 
         /** Deeper and deeper, till a spot is come to that is still open: order is the trail to here. */
@@ -1655,6 +1664,9 @@ public final class OneWayPast {
             // Each time either a spot is closed or one of its streets is tried.
             for (int i = 0; i < SPOTS * (MOST_STREETS + 1) && found > 0 && found <= SPOTS; i++) {
                 int spot = order[found - 1];
+                if (!isSpot(spot)) {
+                    return false;
+                }
                 int streets = untried[spot];
                 if (streets == 0) {
                     state[spot] = CLOSED;
@@ -1663,7 +1675,7 @@ public final class OneWayPast {
                 }
                 untried[spot] = streets & streets - 1;
                 int to = roads.after(g, Integer.numberOfTrailingZeros(streets), spot, standing);
-                if (to >= 0 && to < SPOTS && state[to] == OPEN) {
+                if (isSpot(to) && state[to] == OPEN) {
                     return true;
                 }
                 open(to);
@@ -1672,9 +1684,9 @@ public final class OneWayPast {
         }
 
         private void open(int spot) {
-            if (spot >= 0 && spot < SPOTS && state[spot] == UNSEEN && found < SPOTS) {
+            if (isSpot(spot) && state[spot] == UNSEEN && found < SPOTS) {
                 state[spot] = OPEN;
-                untried[spot] = leaving[spot / YEARS];
+                untried[spot] = streetsFrom(spot);
                 order[found] = spot;
                 found++;
             }
@@ -1697,7 +1709,7 @@ public final class OneWayPast {
             roads.settle(standing.bollards);
             Arrays.fill(here, 0);
             drawings = 1;
-            if (start >= 0 && start < SPOTS) {
+            if (isSpot(start)) {
                 here[start] = 1;
             }
             if (staying && roads.town.streets == 0) {
@@ -1717,7 +1729,7 @@ public final class OneWayPast {
                 }
                 for (int s = 0; s < roads.town.streets; s++) {
                     int to = roads.after(g, s, spot, standing);
-                    if (to >= 0 && to < SPOTS) {
+                    if (isSpot(to)) {
                         next[to] += here[spot];
                     } else if (staying) {
                         next[spot] += here[spot];

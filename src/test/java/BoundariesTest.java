@@ -138,24 +138,60 @@ public final class BoundariesTest {
 
     public static void main(String[] args) {
         texts();
+        withoutText();
+        sums();
+        truths();
+        withinOneAnother();
+        boundsOfLines();
+        partsOfStreets();
+        howManyLines();
         tokens();
         faults();
         goings();
         laws();
+        keptNumbers();
+        choices();
         deedsInTrays();
         undoneCalls();
         termsOfSearches();
+        termsOfMeetings();
+        termsOfShutting();
+        termsOfChances();
+        termsOfDays();
         drawnDeeds();
         codes();
+        manyCalls();
         refusals();
         severalRefusals();
         theTown();
+        feeding();
+        reading();
+        readingRefused();
+        streetsAndGoers();
+        byGoing();
         deeds();
+        signsBollardsPuts();
+        undoing();
+        judging();
+        performing();
+        days();
         coming();
+        ways();
+        rows();
+        whens();
         meetingsAndRings();
+        rings();
+        bylaws();
         shuttingAndTook();
+        rowsTaken();
+        attempts();
         turnsAndChances();
+        chances();
+        means();
         traysAndImages();
+        lists();
+        images();
+        counts();
         says("the end");
         checksOfSentence = 1;
         System.out.println(sentences - 1 + " sentences, " + checks + " checks, " + wrong + " wrong");
@@ -186,7 +222,9 @@ public final class BoundariesTest {
         due("as long as it can be", truth.length() + 1, 901);
         due("a truth to the last byte", tell(x, truth.replaceFirst(" or ", "or ") + ";"), 4);
         due("it holds by its last unit", x.why(0, 0), 0);
+    }
 
+    private static void withoutText() {
         says("(without one: 1 corner, no STREETS, no GOERS, 0 BOLLARDS)");
         OneWayPast none = new OneWayPast();
         due("corners", none.count(0), 1);
@@ -225,7 +263,9 @@ public final class BoundariesTest {
         faultDue("town 1;may:;", 2, 11);
         faultDue("town 1;shifts:1=1;", 2, 15);
         faultDue("town 1;may:1;", 2, 12);
+    }
 
+    private static void sums() {
         says("SUM: TERM { + TERM | - TERM }; TERM: ATOM { * ATOM }");
         due("* ahead of +", shift("1+2*3"), 7);
         due("* ahead of -", shift("9-2*3"), 3);
@@ -261,7 +301,9 @@ public final class BoundariesTest {
         faultDue("town 1;shifts:if 1=1 then 1 end;", 2, 28);
         faultDue("town 1;shifts:if 1=1 1 else 2 end;", 2, 21);
         faultDue("town 1;shifts:if 1 then 1 else 2 end;", 2, 19);
+    }
 
+    private static void truths() {
         says("TRUTH: BOTH { or BOTH }; BOTH: UNIT { and UNIT }; UNIT: not UNIT, [ TRUTH ], or SUM, one of = < >, SUM.");
         due("and ahead of or", may(0, "1=1 or 1=2 and 1=2"), 0);
         due("and ahead of or", may(0, "1=2 and 1=2 or 1=1"), 0);
@@ -273,6 +315,15 @@ public final class BoundariesTest {
         due("=", may(0, "2=2") * 100 + may(0, "2=3") * 10 + may(0, "3=2"), 33);
         due("<", may(0, "2<2") * 100 + may(0, "2<3") * 10 + may(0, "3<2"), 303);
         due(">", may(0, "2>2") * 100 + may(0, "2>3") * 10 + may(0, "3>2"), 330);
+        for (String holds : new String[] {"1=1", "1<2", "2>1", "not 1=2", "[1=1]"}) {
+            for (String other : new String[] {"1=1", "1<2", "2>1", "not 1>2", "[2>1]"}) {
+                due(holds + " and " + other, may(0, holds + " and " + other), 0);
+                due(holds + " or " + other, may(0, holds + " or " + other), 0);
+                due("not " + holds + " and " + other, may(0, "not " + holds + " and " + other), 3);
+                due("not " + holds + " or not " + other, may(0, "not " + holds + " or not " + other), 3);
+                due("if " + holds, may(0, "if " + holds + " then 1 else 2 end=1 and " + other), 0);
+            }
+        }
         faultDue("town 1;may:1=1=1;", 2, 14);
         faultDue("town 1;may:[];", 2, 12);
         faultDue("town 1;may:[1=1;", 2, 15);
@@ -284,9 +335,6 @@ public final class BoundariesTest {
         faultDue("town 1;may:1=1 and or 1=1;", 2, 19);
         faultDue("town 1;may:1=not 1=1;", 2, 13);
         faultDue("town 1;may:not;", 2, 14);
-
-        withinOneAnother();
-        boundsOfLines();
     }
 
     private static void withinOneAnother() {
@@ -341,7 +389,9 @@ public final class BoundariesTest {
                 }
             }
         }
+    }
 
+    private static void partsOfStreets() {
         says("years: 0 to 9 (0), or back: as many below 0 (later ones of both strike)");
         for (int n = 0; n <= 9; n++) {
             due("years " + n, told("town 2;street 0 1 years " + n + ";").street(0, 3), 50 + n);
@@ -367,7 +417,9 @@ public final class BoundariesTest {
         faultDue("town 2;street 0 1 sign 4;", 3, 23);
         due("later", told("town 2;street 0 1 sign 3 sign 1 years 2;").street(0, 2), 1);
         due("later", told("town 2;street 0 1 sign 3 sign 0;").street(0, 2), 0);
+    }
 
+    private static void howManyLines() {
         says("numbered from 0 on, 8 at most.");
         for (int n = 0; n <= 8; n++) {
             OneWayPast x = told("town 3;" + "street 0 1;".repeat(Math.max(n - 1, 0)) + (n > 0 ? "street 1 2;" : ""));
@@ -404,6 +456,16 @@ public final class BoundariesTest {
         tell(again, "town 2;street 0 1 years 2;goer 0 year 1;");
         due("no law any more", again.by(0, 0, 1), 3);
         due("no bollards any more", again.count(3), 0);
+        tell(again, "town 2;street 0 1;goer 0 year 1;shifts:7;may:1=1;");
+        tell(again, "town 2;street 0 1 years 2;goer 0 year 1;");
+        due("no may behind shifts any more", again.by(0, 0, 1), 3);
+        tell(again, "town 2;street 0 1;goer 0 year 1;may:not 1=2;");
+        tell(again, "town 2;street 0 1;goer 0 year 1;may:1=1;");
+        due("nothing of a longer law any more", again.why(0, 0), 0);
+        for (int years = 0; years < 5; years++) {
+            tell(again, "town 2;street 0 1;goer 0 year 1;shifts:" + years + ";");
+            due("the years of this one, by a search", again.soonest(0, 1, 1 + years), 1);
+        }
     }
 
     /** What shifts tells for the one street of a town, gone by a goer in year 10 (less 100: why not). */
@@ -500,6 +562,20 @@ public final class BoundariesTest {
         feed(cut, "town 1;bollards 5;");
         due("the text's length, not the tape's", cut.town(3), -32);
         due("a word cut short", cut.fault(1), 0);
+        feed(cut, "town 16;");
+        due("a number cut short", cut.town(6), -32);
+        due("at its end", cut.fault(1), 6);
+        feed(cut, "town 1;bollards 5000;");
+        due("a number cut short", cut.town(17), -32);
+        due("at its end", cut.fault(1), 17);
+        feed(cut, "town 1;bollards 5000;");
+        due("a number cut to three digits", cut.town(19), -33);
+        String blanks = " ".repeat(893) + "town 1;";
+        due("to the last byte", tell(cut, blanks), 1);
+        due("a digit as the last byte", tell(cut, blanks.substring(1, 899) + " 1"), -32);
+        due("its place", cut.fault(1), 899);
+        due("a letter as the last byte", tell(cut, blanks.substring(0, 899) + "a"), -32);
+        due("its place", cut.fault(1), 899);
         faultDue("goer 0 year 0;town 1;", 2, 0);
         faultDue("bollards 0;", 2, 0);
         faultDue("1", 2, 0);
@@ -608,7 +684,9 @@ public final class BoundariesTest {
         OneWayPast g = told("town 2;street 0 1;goer 0 year 0;goer 0 year 0;goer 0 year 0;may:goer=2;");
         due("goers", 100 * g.why(0, 0) + 10 * g.why(1, 0) + g.why(2, 0), 330);
         due("goer 0", told("town 2;street 0 1;goer 0 year 0;may:goer=0;").why(0, 0), 0);
+    }
 
+    private static void keptNumbers() {
         says("Each + - * is kept from -1,000,000 to 1,000,000");
         String million = "(999+1)*(999+1)";
         due("a million", may(0, million + "-1<" + million), 0);
@@ -634,7 +712,9 @@ public final class BoundariesTest {
         due("* a million times a million", may(0, "(" + million + ")*(" + million + ")=" + million), 0);
         due("* a million times less a million", may(0, "(" + million + ")*(0-" + million + ")=0-" + million), 0);
         due("each, not the whole", may(0, "999*999*999*0=0 and 999*999*999-999*999*999=0"), 0);
+    }
 
+    private static void choices() {
         says("if tells the one SUM, if the TRUTH holds, else the other one.");
         due("holds", shift("if 1=1 then 5 else 6 end"), 5);
         due("doesn't", shift("if 1=2 then 5 else 6 end"), 6);
@@ -800,7 +880,9 @@ public final class BoundariesTest {
         due("to 1 in year 0", x.way(0, 1, 0, 0), 4);
         due("fewest ahead of first", told("town 3;street 0 1;street 1 2;street 0 2;goer 0 year 0;").way(0, 2, -1, 0), 2);
         due("where it is: none", x.soonest(0, 0, -1), 0);
+    }
 
+    private static void termsOfMeetings() {
         says("MEETING of two GOERS: a ROW of each, behind which both are at one CORNER in one YEAR: the fewest GOINGS together, of like ones the least CORNER, then the least YEAR.");
         OneWayPast m = told("town 3;street 0 2 years 1;street 1 2 years 1;street 0 1;street 1 0;goer 0 year 3;goer 1 year 3;");
         due("least corner", 10 * m.meet(0, 1) + m.meetAt(0, 1, 0), 10);
@@ -827,7 +909,9 @@ public final class BoundariesTest {
         due("eight that make no ring", told("town 2;" + "street 0 1 years 1;".repeat(8) + "goer 0 year 0;may:against=0;").laws(0), 256);
         due("a shut one stays so", told("town 2;street 0 1 sign 3;street 0 1;goer 0 year 0;").laws(0), 2);
         due("0 for it", told("town 2;street 0 1 sign 3;street 0 1 sign 1;goer 0 year 0;").bylaw(0, 1), 2);
+    }
 
+    private static void termsOfShutting() {
         says("SHUTTING: STREETS that aren't SHUT, to be SHUT so that a GOER can't COME to a CORNER in any YEAR: the fewest, of like ones the least set as bits.");
         due("none are needed", told("town 2;goer 0 year 0;").shut(0, 1, 0), 0);
         due("all eight", told("town 2;" + "street 0 1;".repeat(8) + "goer 0 year 0;").shut(0, 1, 1), 255);
@@ -842,6 +926,9 @@ public final class BoundariesTest {
         due("one of two", told("town 3;street 0 1;street 1 2;street 1 2;goer 0 year 0;").forces(0, 2), 2);
         due("a shut one is none of two", told("town 3;street 0 1;street 1 2;street 1 2 sign 3;goer 0 year 0;").forces(0, 2), -1);
         due("without streets", told("town 2;goer 0 year 0;").forces(0, 1), -1);
+        due("the warden shuts street 0", told("town 3;street 1 2;street 0 1;goer 0 year 0;").forces(0, 2), -1);
+        due("to corner 0 in year 0", told("town 2;street 1 0 back 9;goer 1 year 9;").forces(0, 0), 1);
+        due("through corner 0 in year 0", told("town 3;street 1 0 back 9;street 0 2;street 0 2;goer 1 year 9;").forces(0, 2), 2);
 
         says("the child FORCES a CORNER within n turns of its own (0 to 3), if it can GO so that it is there (in any YEAR) behind one of these, whatever the warden does.");
         // Three to the first corner, one more each time than the warden can shut.
@@ -854,7 +941,9 @@ public final class BoundariesTest {
         due("not by any street", told(chain + "goer 0 year 0;").best(0, 4), -1);
         due("in any year", told("town 3;street 0 1 years 9;street 1 2 years 9;street 1 2 back 9;goer 0 year 1;").forces(0, 2), 2);
         due("whatever the warden does", told("town 3;street 0 1 years 9;street 1 2 years 9;street 1 2 back 9;goer 0 year 2;").forces(0, 2), -1);
+    }
 
+    private static void termsOfChances() {
         says("CHANCE: n times (0 to 6) one of all STREETS is drawn, each as likely; the GOER GOES it, if it can (without STREETS: nothing is drawn): how likely it is at a CORNER then, in lowest terms.");
         OneWayPast c = told("town 2;" + "street 0 1;".repeat(4) + "street 1 0;".repeat(4) + "goer 0 year 0;");
         due("half, in lowest terms", 10 * c.chance(0, 1, 1, 0) + c.chance(0, 1, 1, 1), 12);
@@ -868,7 +957,9 @@ public final class BoundariesTest {
         // It is still at 0 if none of six drew street 0.
         due("seven eighths to the sixth", e.chance(0, 0, 6, 0), 117649);
         due("eight to the sixth", e.chance(0, 0, 6, 1), 262144);
+    }
 
+    private static void termsOfDays() {
         says("A DAY by a SEED (x, an int; a DRAW: x becomes 1103515245 x + 12345, it is x >>> 16)");
         for (int seed : new int[] {0, 1, -1, 2, 4, 65535, 65536, 0x7fff0000, MAX, MIN, MIN + 1, 987654321, -987654321}) {
             for (int times : new int[] {1, 2, 39, 40}) {
@@ -964,7 +1055,9 @@ public final class BoundariesTest {
         due("-32", tell(x, "a"), -32);
         due("-33", tell(x, "town 9"), -33);
         due("-34", tell(x, "town 1;shifts:((((((("), -34);
+    }
 
+    private static void manyCalls() {
         says("An object is used for at most 512 calls after it has been made; what later calls answer is free.");
         OneWayPast much = new OneWayPast();
         for (int i = 0; i < 26; i++) {
@@ -1240,8 +1333,11 @@ public final class BoundariesTest {
         due("no street 0", x.street(0, 0), -2);
         due("goers", x.count(2), 0);
         due("no goer 0", x.goer(0, 0), -2);
+    }
 
+    private static void feeding() {
         says("Twenty bytes come behind those on THE TAPE, the highest of each int first: how many it has.");
+        OneWayPast x = new OneWayPast();
         for (int place = 0; place < 20; place++) {
             OneWayPast y = new OneWayPast();
             StringBuilder blanks = new StringBuilder(" ".repeat(20));
@@ -1267,7 +1363,9 @@ public final class BoundariesTest {
         due("what was refused isn't on it", t.town(900), -32);
         due("the second town", t.fault(1), 20);
         due("empty: there is room again", t.feed(0, 0, 0, 0, 0), 20);
+    }
 
+    private static void reading() {
         says("The first n bytes of THE TAPE (which is empty then) are THE TOWN, nothing can be UNDONE: how many LINES (town, too; all stays with a FAULT).");
         OneWayPast n = new OneWayPast();
         feed(n, "town 1;bollards 7;  town 2;");
@@ -1303,7 +1401,9 @@ public final class BoundariesTest {
             due("undone", b.undo(3), 0);
             due("as first told", at(b, 0) * 10000 + at(b, 1), 50210);
         }
+    }
 
+    private static void readingRefused() {
         says("-3: n is below 0 or above what there is (THE TAPE stays); -30 less the FAULT.");
         OneWayPast s = new OneWayPast();
         due("above none", s.town(1), -3);
@@ -1338,7 +1438,9 @@ public final class BoundariesTest {
         tell(f, "!");
         f.restore(0);
         due("kind 1 at 0, still", f.fault(0) * 10 + f.fault(1), 10);
+    }
 
+    private static void streetsAndGoers() {
         says("Of a STREET, what 0: BEGINNING, 1: END, 2: SIGN, 3: 50 and its years. -2.");
         OneWayPast st = told("town 6;street 5 0 back 9 sign 3;street 0 5 years 9;");
         due("back 9", st.street(0, 3), 41);
@@ -1357,6 +1459,7 @@ public final class BoundariesTest {
         due("none", go.goer(1, 2), 0);
         due("year 19", go.goer(1, 1), 19);
         due("without streets", told("town 2;goer 0 year 0;").goer(0, 2), 0);
+        due("to corner 0 in year 0", told("town 2;street 1 0 back 9;goer 1 year 9;").goer(0, 2), 1);
         due("behind the last", go.goer(2, 0), -2);
         due("below 0", go.goer(-1, 2), -2);
         due("what", go.goer(0, 3), -2);
@@ -1369,7 +1472,9 @@ public final class BoundariesTest {
         due("no goer 2", go.why(2, 0), 1);
         due("no goer -1", go.why(-1, 0), 1);
         due("neither", new OneWayPast().why(0, 0), 1);
+    }
 
+    private static void byGoing() {
         says("By GOING a STREET, what 0: the CORNER, 1: the YEAR. -2: what; -5: it can't (for whatever reason).");
         OneWayPast by = told("town 3;street 1 0 back 9;street 1 2 sign 1;street 1 0;street 1 0 years 9;street 1 0 years 8;goer 1 year 9;goer 1 year 12;may:not street=2;");
         due("corner 0", by.by(0, 0, 0), 0);
@@ -1401,7 +1506,9 @@ public final class BoundariesTest {
         due("it stays", at(x, 0), 11);
         x.put(0, 1, 9);
         due("year 0", x.go(0, 0), 0);
+    }
 
+    private static void signsBollardsPuts() {
         says("To SIGN (0 to 3): what the SIGN was. -11.");
         OneWayPast s = told(FULL);
         int was = 2;
@@ -1439,7 +1546,9 @@ public final class BoundariesTest {
         due("goer 3", p.put(3, 0, 0), -11);
         due("goer -1", p.put(-1, 0, 0), -11);
         due("another corner there isn't", told("town 5;goer 0 year 0;").put(0, 5, 0), -11);
+    }
 
+    private static void undoing() {
         says("n calls (1 to 10) are UNDONE: how many still can be. -3: n, more than can be.");
         OneWayPast u = told(FULL);
         due("of none", u.undo(1), -3);
@@ -1453,7 +1562,9 @@ public final class BoundariesTest {
         due("ten", u.undo(10), 0);
         due("as behind the second", u.count(3), 1);
         due("no more", u.undo(1), -3);
+    }
 
+    private static void judging() {
         says("DEEDS, judged as if done, what 0: the first place that can't be (NONE), 1: why (0), 2: all YEARS of GOERS together then, 3: CORNERS where some are then, as bits. -2: the TRAY, what; -6.");
         OneWayPast j = told(FULL);
         due("missing", j.judge(3, 0), -6);
@@ -1466,10 +1577,7 @@ public final class BoundariesTest {
         due("none told: why", j.judge(3, 1), 0);
         due("none told: years", j.judge(3, 2), 26);
         due("none told: corners", j.judge(3, 3), 0b110001);
-        long[] forty = new long[40];
-        for (int i = 0; i < 40; i++) {
-            forty[i] = i % 2 == 0 ? 1019 : 3319;
-        }
+        long[] forty = fortyPuts();
         tray(j, 3, 1, forty);
         due("forty: place", j.judge(3, 0), -1);
         due("forty: years", j.judge(3, 2), 57);
@@ -1481,6 +1589,9 @@ public final class BoundariesTest {
         due("the first can't be", j.judge(3, 0), 0);
         due("as it is", j.judge(3, 2), 26);
         due("as it is", j.judge(3, 3), 0b110001);
+        due("none told behind one that can't be: place", tray(j, 2, 1).judge(2, 0), -1);
+        due("none told behind one that can't be: why", j.judge(2, 1), 0);
+        due("two at one corner: once", tray(j, 2, 1, 1500).judge(2, 3), 0b110000);
         due("nothing is done", j.count(5) * 10 + j.count(6), 260);
         tray(new OneWayPast(), 0, 0);
         due("without goers: years", tray(new OneWayPast(), 0, 0).judge(0, 2), 0);
@@ -1490,14 +1601,24 @@ public final class BoundariesTest {
         due("why 3", tray(whys, 0, 0, 2).judge(0, 1), 3);
         due("why 4", tray(whys, 0, 0, 0).judge(0, 1), 4);
         due("by what was judged done ahead", tray(whys, 0, 1, 1101, 1).judge(0, 0), -1);
+    }
 
+    private static long[] fortyPuts() {
+        long[] forty = new long[40];
+        for (int i = 0; i < 40; i++) {
+            forty[i] = i % 2 == 0 ? 1019 : 3319;
+        }
+        return forty;
+    }
+
+    private static void performing() {
         says("They are done, till one can't be: how many. -2; -6.");
         OneWayPast d = told(FULL);
         due("missing", d.perform(0), -6);
         due("tray 4", d.perform(4), -2);
         due("tray -1", d.perform(-1), -2);
         due("none told", tray(d, 0, 1).perform(0), 0);
-        due("forty", tray(d, 0, 1, forty).perform(0), 40);
+        due("forty", tray(d, 0, 1, fortyPuts()).perform(0), 40);
         d.write(0, 39, 210);
         due("the last can't be", d.perform(0), 39);
         d.write(0, 1, 30);
@@ -1508,7 +1629,9 @@ public final class BoundariesTest {
         d.write(0, 0, 4000);
         due("the first can't be", d.perform(0), 0);
         due("three calls did some", d.count(6), 3);
+    }
 
+    private static void days() {
         says("A DAY: how many could be. -3: how many times.");
         OneWayPast day = told(FULL);
         due("0", day.day(1, 0), -3);
@@ -1546,7 +1669,9 @@ public final class BoundariesTest {
         due("goer 1", x.soonest(1, 0, 0), -2);
         due("goer -1", x.soonest(-1, 0, 0), -2);
         due("without streets", told("town 2;goer 0 year 0;").soonest(0, 1, -1), -1);
+    }
 
+    private static void ways() {
         says("The i-th STREET of it. NONE: not so many, it can't be; -2; -3: the YEAR, i is below 0.");
         OneWayPast w = told("town 3;street 1 2;street 0 1 years 1;goer 0 year 18;");
         due("i 0", w.way(0, 2, 19, 0), 1);
@@ -1557,11 +1682,16 @@ public final class BoundariesTest {
         due("the least i", w.way(0, 2, 19, MIN), -3);
         due("where it is", w.way(0, 0, 18, 0), -1);
         due("it can't be", w.way(0, 2, 18, 0), -1);
+        OneWayPast zero = told("town 4;street 3 2;street 2 0;street 0 1;goer 3 year 0;");
+        due("to corner 0 in year 0", zero.way(0, 0, 0, 0) * 10 + zero.way(0, 0, 0, 1), 1);
+        due("through corner 0 in year 0", zero.way(0, 1, -1, 0) * 100 + zero.way(0, 1, -1, 1) * 10 + zero.way(0, 1, -1, 2), 12);
         due("year 20", w.way(0, 2, 20, 0), -3);
         due("year -2", w.way(0, 2, -2, 0), -3);
         due("corner 3", w.way(0, 3, -1, 0), -2);
         due("goer 1", w.way(1, 2, -1, 0), -2);
+    }
 
+    private static void rows() {
         says("How many ROWS of just n GOINGS (0 to 12) there are behind which it is there then. -2; -3: the YEAR, n.");
         OneWayPast r = told("town 2;" + "street 0 1 sign 2;".repeat(8) + "goer 0 year 19;");
         due("n 0", r.rows(0, 0, 19, 0), 1);
@@ -1579,8 +1709,12 @@ public final class BoundariesTest {
         due("corner 2", r.rows(0, 2, 0, 0), -2);
         due("goer 1", r.rows(1, 0, 0, 0), -2);
         due("without streets", told("town 2;goer 0 year 0;").rows(0, 0, -1, 1), 0);
+    }
 
+    private static void whens() {
         says("YEARS in which it can be at a CORNER (now, too), as bits. -2.");
+        OneWayPast r = told("town 2;" + "street 0 1 sign 2;".repeat(8) + "goer 0 year 19;");
+        OneWayPast x = told("town 2;street 0 1 sign 2;goer 0 year 0;shifts:1;");
         due("now", r.when(0, 0), 1 << 19);
         due("all years", told("town 2;street 0 1 sign 2;street 0 1;goer 0 year 0;shifts:if street=1 then 0 else 1 end;").when(0, 1), 0xfffff);
         due("every other one", x.when(0, 0), 0x55555);
@@ -1605,6 +1739,7 @@ public final class BoundariesTest {
         says("CORNERS to which it can come, as bits (where it is, too). -2.");
         due("where it is", told("town 6;goer 5 year 7;").reach(0), 32);
         due("all six", told(FULL).reach(0), 63);
+        due("in two years: once", told("town 2;street 0 1 years 1;street 0 1 years 2;goer 0 year 0;").reach(0), 3);
         due("goer 3", told(FULL).reach(3), -2);
         due("goer -1", told(FULL).reach(-1), -2);
     }
@@ -1638,7 +1773,9 @@ public final class BoundariesTest {
         x.put(1, 0, 0);
         due("corner 0", x.meetAt(0, 1, 0), 0);
         due("year 0", x.meetAt(0, 1, 1), 0);
+    }
 
+    private static void rings() {
         says("The fewest GOINGS of a RING from its CORNER in its YEAR to the same again. NONE: there is no RING; -2.");
         due("two, the fewest that can be", told("town 2;street 0 1 sign 2;goer 0 year 0;").ring(0), 2);
         due("a shorter one farther on", told("town 4;street 0 1;street 1 2;street 2 0;street 2 3 sign 2;goer 0 year 0;").ring(0), 2);
@@ -1650,11 +1787,14 @@ public final class BoundariesTest {
                 + "shifts : if street = 6 then 1 else if street = 0 then 0 - 19 else 0 end end;may : street > 0 or year = 19;");
         due("the most that can be", all.ring(0), 120);
         due("the farthest", all.soonest(0, 5, 19), 119);
+    }
 
+    private static void bylaws() {
         says("BY-LAWS: how many there are. -2.");
         due("all 256", told("town 2;" + "street 0 1 years 1;".repeat(8) + "goer 0 year 0;may:against=0;").laws(0), 256);
         due("one", told("town 2;goer 0 year 0;").laws(0), 1);
         due("two", told("town 2;" + "street 0 1 sign 2;".repeat(8) + "goer 0 year 0;").laws(0), 2);
+        due("a ring behind a dead end", told("town 3;street 0 1;street 0 2;street 0 2;goer 0 year 0;").laws(0), 4);
         due("goer 1", told("town 2;goer 0 year 0;").laws(1), -2);
         due("goer -1", told("town 2;goer 0 year 0;").laws(-1), -2);
 
@@ -1709,7 +1849,9 @@ public final class BoundariesTest {
         due("in any year", told("town 2;street 0 1 years 1;street 0 1;goer 0 year 0;").needed(0, 1), 0);
         due("corner 3", x.needed(0, 3), -2);
         due("goer 1", x.needed(1, 0), -2);
+    }
 
+    private static void rowsTaken() {
         says("TOOK in a TRAY (1 to 10 STREETS): a ROW of a GOER behind which it is in a told YEAR: CORNERS at which it can be now (in its YEAR), BOLLARDS 0 to 9 there can be, by which it can GO so and is in that YEAR then.");
         OneWayPast t = told("town 2;street 0 1 sign 2;goer 0 year 0;bollards 0;shifts:if against=0 then bollards else 0-bollards end;");
         tray(t, 0, 0, 0);
@@ -1725,6 +1867,15 @@ public final class BoundariesTest {
         tray(t, 0, 3);
         due("none", t.from(0, 0, 0), -4);
         due("nothing is changed", t.count(3) * 100 + t.count(6) * 10 + t.goer(0, 0), 0);
+        OneWayPast between = told("town 2;street 0 1;goer 0 year 0;bollards 4;shifts:bollards;");
+        due("a search ahead", between.when(0, 1), 1 << 4);
+        due("others are tried", tray(between, 0, 0, 0).bollardsBy(0, 0, 9), 1 << 9);
+        due("a street is looked for", between.attempt(0, 0, 9), 0);
+        due("the same search behind", between.when(0, 1), 1 << 4);
+        between.bollards(5);
+        due("by other bollards", between.when(0, 1), 1 << 5);
+        between.undo(1);
+        due("as ahead", between.when(0, 1), 1 << 4);
 
         says("TOOK: CORNERS, as bits. -2: the TRAY, the GOER; -6; -4: not 1 to 10 numbers; -3: one is no STREET, the YEAR (0 to 19).");
         took("from", (o, a) -> o.from(a[0], a[1], a[2]));
@@ -1735,7 +1886,9 @@ public final class BoundariesTest {
 
         says("BOLLARDS, as bits. As from().");
         took("bollardsBy", (o, a) -> o.bollardsBy(a[0], a[1], a[2]));
+    }
 
+    private static void attempts() {
         says("The STREET to GO next: the greatest number of these BOLLARDS by which it would be in the same YEAR then (in its YEAR as now, if it can't) is least, the first. NONE: there are none; as from().");
         took("attempt", (o, a) -> o.attempt(a[0], a[1], a[2]));
         OneWayPast at = told("town 2;street 0 1;street 0 1;street 0 1;street 1 0;goer 0 year 3;"
@@ -1750,6 +1903,11 @@ public final class BoundariesTest {
         tray(same, 0, 0, 0);
         // By 1 four go on and six stay; by 2 five and five.
         due("in its year as now, if it can't", same.attempt(0, 0, 3), 2);
+        // 0 and 1 are told: street 0 doesn't tell them apart, street 1 does.
+        OneWayPast two = told("town 2;street 0 1;street 0 1;street 0 1;goer 0 year 3;shifts:if street=1 then bollards else 0 end;may:street<2 or bollards<2;");
+        tray(two, 0, 0, 2);
+        due("no bollards and one", two.bollardsBy(0, 0, 3), 3);
+        due("no bollards are one of these", two.attempt(0, 0, 3), 1);
         OneWayPast back = told("town 2;street 0 1;street 0 1 years 1;street 0 1;goer 0 year 3;may:not street=2 or bollards<5;");
         tray(back, 0, 0, 0);
         due("those that stay and those that go in no years are alike", back.attempt(0, 0, 3), 0);
@@ -1821,7 +1979,9 @@ public final class BoundariesTest {
         due("as few, not the first that does", told("town 3;street 0 1;street 1 2;street 1 2;street 0 2;goer 0 year 0;").best(0, 2), 3);
         due("corner 5", x.best(0, 5), -2);
         due("goer 2", x.best(2, 0), -2);
+    }
 
+    private static void chances() {
         says("CHANCE, what 0: the number above, 1: below. -2: the GOER, the CORNER, what; -3: n.");
         OneWayPast c = told("town 2;street 0 1;" + "street 0 1 sign 3;".repeat(7) + "goer 0 year 0;");
         due("n 0, where it is", 10 * c.chance(0, 0, 0, 0) + c.chance(0, 0, 0, 1), 11);
@@ -1836,7 +1996,9 @@ public final class BoundariesTest {
         for (int what : NO_WHAT_OF_TWO) {
             due("what", c.chance(0, 0, 1, what), -2);
         }
+    }
 
+    private static void means() {
         says("In which YEAR it is on the mean then, what 0: above, 1: below, in lowest terms. -2; -3.");
         OneWayPast m = told("town 2;street 0 1 years 1;" + "street 0 1 sign 3;".repeat(7) + "goer 0 year 0;goer 0 year 18;goer 0 year 19;");
         due("year 0", 10 * m.mean(0, 0, 0) + m.mean(0, 0, 1), 1);
@@ -1929,7 +2091,9 @@ public final class BoundariesTest {
         cut.write(0, 0, 256 + 103);
         due("cut, not what was told", cut.judge(0, 0), -1);
         due("cut, not what was told", cut.perform(0) * 10 + cut.street(0, 2), 13);
+    }
 
+    private static void lists() {
         says("STREETS of COMING to a CORNER in a YEAR come into a TRAY, as far as it has places: how many. -2: the TRAY, the GOER, the CORNER; -6; -3: the YEAR; -5: there is none.");
         OneWayPast l = told("town 4;street 3 0;street 2 3;street 1 2;street 0 1;goer 0 year 0;");
         due("missing", l.lists(0, 0, 3, -1), -6);
@@ -1956,7 +2120,9 @@ public final class BoundariesTest {
         due("nineteen of forty", far.lists(0, 0, 1, 19), 19);
         far.numbers(0, 0, 10);
         due("ten of nineteen", far.lists(0, 0, 1, 19), 10);
+    }
 
+    private static void images() {
         says("IMAGES 0 to 1: THE TOWN and what a call could bring back by UNDOING; nothing can be UNDONE behind (none at first).");
         OneWayPast im = told(FULL);
         due("none at first", im.restore(0), -5);
@@ -2021,7 +2187,9 @@ public final class BoundariesTest {
         due("its laws", law.why(0, 0), 3);
         law.bollards(1);
         due("its laws", law.by(0, 0, 1), 8);
+    }
 
+    private static void counts() {
         says("0 CORNERS, 1 STREETS, 2 GOERS, 3 BOLLARDS, 4 STREETS that are SHUT, as bits, 5 all YEARS of GOERS together, 6 calls that can be UNDONE, 7 bytes on THE TAPE, 8 LINES. NONE for others.");
         OneWayPast c = told("town 6;" + "street 0 1 sign 3;".repeat(8) + "goer 0 year 19;".repeat(3) + "bollards 9;");
         int[] most = {6, 8, 3, 9, 255, 57, 10, 900, 13};
